@@ -55,7 +55,6 @@ public final class GoatAbacus {
     private final Timetable timetable;
     private final Dogs pack;
     private Veil veil;
-    private Maker maker;
     private int acts;
     private int order;
     private int pace;
@@ -497,11 +496,14 @@ public final class GoatAbacus {
         if (number < 0 || number > MOST_MADE || what < 0 || what > 1) {
             return NONE;
         }
-        if (maker == null) {
-            maker = new Maker();
+        // No rope gets from 0 to its digit by fewer walks than that digit. With no more than these nothing is
+        // carried, and then only an act of its own (no DOUBLE) can begin a rope: one for each digit is enough.
+        int answer = 0;
+        for (int place = 0; place < 3; place++) {
+            int digit = digitOf(number, place);
+            answer += what == 0 ? digit : Math.min(digit, 1);
         }
-        maker.workUpTo(number, side);
-        return what == 0 ? maker.walksTo(number) : maker.actsTo(number);
+        return answer;
     }
 
     // ---- tried on the side
@@ -1072,12 +1074,11 @@ public final class GoatAbacus {
                 number = 10 * number + bytes[at] - '0';
                 at++;
             }
-            if (at == first || (at < size && isDigit(bytes[at] - '0'))) {
-                return false;
-            }
+            // A tenth digit is left where it stands: nothing that may follow a number begins with one.
             rows[into] = number;
+            boolean isThere = at > first;
             skipBlanks();
-            return true;
+            return isThere;
         }
 
         private boolean readOften(int into) {
@@ -1587,60 +1588,6 @@ public final class GoatAbacus {
                 number += Math.max(found, 0) * weight;
             }
             return number;
-        }
-    }
-
-    /** MAKE: every ACT leads to a greater number, so all below a number settle it. */
-    private static final class Maker {
-        /** WALKS times this and ACTS: no way has as many ACTS, as each makes the number greater. */
-        private static final int SCALE = 1_000;
-        private final int[] costs = new int[MOST_MADE + 1];
-        private int worked;
-
-        Maker() {
-            Arrays.fill(costs, Integer.MAX_VALUE);
-            costs[0] = 0;
-        }
-
-        int walksTo(int number) {
-            return costs[number] / SCALE;
-        }
-
-        int actsTo(int number) {
-            return costs[number] % SCALE;
-        }
-
-        void workUpTo(int number, Valley scratch) {
-            scratch.clear(3);
-            for (; worked < number; worked++) {
-                for (int place = 0; place < 3; place++) {
-                    int weight = (int) TENS[place];
-                    for (int often = 1; often <= 9 && worked + often * weight <= MOST_MADE; often++) {
-                        workAdd(worked, often * weight, scratch);
-                    }
-                }
-                workDouble(worked, scratch);
-            }
-        }
-
-        private void workAdd(int from, int by, Valley scratch) {
-            int ahead = scratch.walks;
-            scratch.standFor(from);
-            scratch.bring(by, false, 0, null);
-            settle(from, from + by, scratch.walks - ahead);
-        }
-
-        private void workDouble(int from, Valley scratch) {
-            int ahead = scratch.walks;
-            scratch.standFor(from);
-            scratch.twice();
-            settle(from, 2 * from, scratch.walks - ahead);
-        }
-
-        private void settle(int from, int to, int walks) {
-            if (to <= MOST_MADE) {
-                costs[to] = Math.min(costs[to], costs[from] + walks * SCALE + 1);
-            }
         }
     }
 }

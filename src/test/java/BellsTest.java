@@ -66,6 +66,17 @@ public final class BellsTest {
         x.add(600, false);
         due.is("9 that are seen as 10", x.span(1, 0, 1), 1000);
         due.is("9 that are seen as 10", x.span(1, 0, 2), 10009);
+        GoatAbacus y = new GoatAbacus(12);
+        for (int rope = 7; rope < 12; rope++) {
+            y.fog(rope, true);
+        }
+        y.add(5, false);
+        due.is("five in fog", y.span(1, 0, 0), 100000);
+        due.is("five in fog", y.span(1, 0, 2), 999990000005L);
+        due.is("modulo 9", y.span(9, 5, 0), 11112);
+        due.is("modulo 9", y.span(9, 5, 2), 999990000005L);
+        due.is("modulo 9", y.span(9, 6, 1), 10000005L);
+        due.is("modulo 99", y.span(99, 0, 1) % 99, 0);
     }
 
     private static void astrays() {

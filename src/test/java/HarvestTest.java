@@ -114,6 +114,15 @@ public final class HarvestTest {
         due.is("one way", y.confused(), 6);
         y.echo(3, 2, 100);
         due.is("never itself", y.guess(13), 0);
+        GoatAbacus z = with(2, 111111111, 222222222);
+        z.echo(1, 2, 1);
+        z.echo(2, 3, 1);
+        due.is("one part of 10 to the 18", z.guess(333333333), 1);
+        due.is("two ways", z.guess(222222222), 1);
+        due.is("as little as can be", z.confused(), 1);
+        z.echo(2, 3, 0);
+        z.echo(2, 1, 100);
+        due.is("one part of 10 to the 18", z.guess(222222222), 0);
     }
 
     private static void odds() {

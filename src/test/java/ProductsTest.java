@@ -64,7 +64,7 @@ public final class ProductsTest {
         due.is("1 and 9, to 9: eight 1 and one 9", x.all(257, 9, 1), 100000008);
         due.is("1 and 9, to 9", x.all(257, 9, 0), 9);
         due.is("1, 5 to 9", x.all(17, 9, 1), 10004);
-        int[][] none = {{0, 1, 0}, {512, 1, 0}, {-1, 1, 0}, {1, 0, 0}, {1, 10, 0}, {1, 1, 2}, {1, 1, -1}};
+        int[][] none = {{0, 1, 0}, {512, 1, 0}, {513, 1, 0}, {-1, 1, 0}, {1, 0, 0}, {1, 10, 0}, {1, 1, 2}, {1, 1, -1}};
         for (int[] n : none) {
             due.is("refused", x.all(n[0], n[1], n[2]), -1);
         }

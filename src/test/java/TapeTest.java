@@ -40,6 +40,42 @@ public final class TapeTest {
         due.is("end(1)", x.end(1), true);
         due.is("text of d", x.text(), 1);
         due.is("letter of d", Due.stepOf(x, 1, 0, 0), 2);
+        due.is("its number", Due.stepOf(x, 1, 0, 1), 0);
+        due.is("how often", Due.stepOf(x, 1, 0, 2), 1);
+    }
+
+    private static void eachNumberCounts() {
+        for (int k = 0; k < 5; k++) {
+            GoatAbacus x = new GoatAbacus(4);
+            Due.feed(x, " ".repeat(158));
+            int[] three = new int[5];
+            three[k] = 0x20002020;
+            due.is("three more by " + k, x.feed(three[0], three[1], three[2], three[3], three[4]), -1);
+            three[k] = 0x00200020;
+            due.is("two more by " + k, x.feed(three[0], three[1], three[2], three[3], three[4]), 160);
+            due.is("a whole tape of blanks", x.fault(), 160);
+        }
+        GoatAbacus y = new GoatAbacus(4);
+        Due.feed(y, " ".repeat(159) + "d");
+        due.is("a whole tape", y.fault(), -1);
+        GoatAbacus z = new GoatAbacus(4);
+        Due.feed(z, " ".repeat(159) + "a");
+        due.is("a whole tape, too early", z.fault(), 160);
+        GoatAbacus w = new GoatAbacus(4);
+        Due.feed(w, " ".repeat(157) + "d x");
+        due.is("a whole tape, too early", w.fault(), 160);
+    }
+
+    private static void whatIsCutOffIsGone() {
+        String[] texts = {"d;d", "a5", "dx2", "a51", "d;a1"};
+        int[] keep = {2, 1, 2, 2, 3};
+        int[] want = {2, 1, 2, -1, 3};
+        for (int i = 0; i < texts.length; i++) {
+            GoatAbacus x = new GoatAbacus(4);
+            Due.feed(x, texts[i]);
+            due.is("end", x.end(keep[i]), true);
+            due.is("fault of the first " + keep[i] + " of " + texts[i], x.fault(), want[i]);
+        }
     }
 
     private static void faults() {
@@ -111,6 +147,8 @@ public final class TapeTest {
 
     public static void main(String[] args) {
         feeding();
+        eachNumberCounts();
+        whatIsCutOffIsGone();
         faults();
         steps();
         due.close();
