@@ -130,10 +130,9 @@ public final class GoatAbacus {
     // ---- what is set
 
     public boolean set(int what, int v) {
-        if (what < 0 || what > 3 || v > 9) {
-            return false;
-        }
-        if (what == 0 ? v != 0 && v != 1 : v < (what == 1 ? 1 : 0)) {
+        int least = what == 1 ? 1 : 0;
+        int most = what == 0 ? 1 : 9;
+        if (what < 0 || what > 3 || v < least || v > most) {
             return false;
         }
         switch (what) {
