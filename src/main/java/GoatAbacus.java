@@ -302,7 +302,7 @@ public final class GoatAbacus {
     }
 
     public long span(int m, int r, int what) {
-        if (m < 1 || m > MOST_MODULUS || r < 0 || r >= m || what < 0 || what > 2) {
+        if (!isRest(m, r) || what < 0 || what > 2) {
             return NONE;
         }
         if (veil == null) {
@@ -317,7 +317,7 @@ public final class GoatAbacus {
     }
 
     public int astray(int m, int r, int i) {
-        if (!isBell(m) || r < 0 || r >= m || i < NONE) {
+        if (!isRest(m, r) || i < NONE) {
             return NONE;
         }
         if (valley.fogs != 0) {
@@ -640,6 +640,11 @@ public final class GoatAbacus {
 
     private static boolean isBell(int m) {
         return m >= 2 && m <= MOST_MODULUS;
+    }
+
+    /** What SPAN and ASTRAY may be asked for; m 1, too. */
+    private static boolean isRest(int m, int r) {
+        return m >= 1 && m <= MOST_MODULUS && r >= 0 && r < m;
     }
 
     private static boolean isFactor(int factor) {
@@ -1358,9 +1363,8 @@ public final class GoatAbacus {
             drives[rope]++;
             free = begin + walks * pace;
             digit = to;
-            if (by != 0 || walks != 0) {
-                rests[rope] = free;
-            }
+            // A DIGIT of 0 is HEARD, too: the ROPE is at rest no sooner.
+            rests[rope] = free;
             if (carry) {
                 sends = free + dog;
             }

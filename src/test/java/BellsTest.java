@@ -98,7 +98,17 @@ public final class BellsTest {
         // 51 is seen; 4 tens are another one then.
         due.is("seen", x.astray(10, 1, 4), 14);
         due.is("seen", x.astray(10, 1, 5), 16);
-        due.is("m 1", x.astray(1, 0, -1), -1);
+        // Modulo 1 every other digit will do: 1 and 5 are those that are seen.
+        due.is("m 1", x.astray(1, 0, -1), 18);
+        due.is("m 1", x.astray(1, 0, 0), 0);
+        due.is("m 1", x.astray(1, 0, 1), 2);
+        due.is("m 1", x.astray(1, 0, 13), 14);
+        due.is("m 1", x.astray(1, 0, 14), 16);
+        due.is("m 1", x.astray(1, 0, 18), -1);
+        due.is("m 1, r", x.astray(1, 1, -1), -1);
+        due.is("m 0", x.astray(0, 0, -1), -1);
+        due.is("m below 0", x.astray(-7, 0, -1), -1);
+        due.is("m 99", x.astray(99, 51, -1), 0);
         due.is("m 100", x.astray(100, 0, -1), -1);
         due.is("r", x.astray(7, 7, -1), -1);
         due.is("r", x.astray(7, -1, -1), -1);
@@ -106,7 +116,8 @@ public final class BellsTest {
         due.is("fog", x.astray(7, 0, -1), -2);
         due.is("fog", x.astray(7, 0, 99), -2);
         due.is("fog, i", x.astray(7, 0, -2), -1);
-        due.is("fog, m", x.astray(1, 0, 0), -1);
+        due.is("fog, m 1", x.astray(1, 0, 0), -2);
+        due.is("fog, m", x.astray(0, 0, 0), -1);
     }
 
     private static void misses() {

@@ -271,9 +271,7 @@ final class Model {
                     begun[r] = t;
                     end[r] = t + Math.abs(to[r] - from[r]) * pace;
                     busy[r] = true;
-                    if (k > 0 || end[r] > t) {
-                        rest[r] = end[r];
-                    }
+                    rest[r] = end[r];
                 }
             }
             if (t == lookMinute) {

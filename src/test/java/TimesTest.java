@@ -87,13 +87,18 @@ public final class TimesTest {
     private static void nothingToDo() {
         GoatAbacus x = new GoatAbacus(4);
         done(x, 0, 0, 0, 0, 0);
-        done(x, 105, 5, 0, 3, 0);
+        // A digit of 0 below the highest is heard, too.
+        done(x, 105, 5, 1, 3, 0);
         due.is("relay of nothing", x.relay(0, 1, 0), 0);
         x.set(3, 9);
-        done(x, 100, 0, 0, 19, 0);
+        done(x, 100, 0, 9, 19, 0);
         due.is("relay waits for the shout", x.relay(100, 1, 0), 19);
         due.is("higher digits are lost", x.done(30000, -1), 0);
         due.is("and not waited for", x.relay(30002, 1, 0), 2);
+        x.add(5, false);
+        // The carry comes in 7 and is driven till 8; the 0 of minute 9 is heard behind that.
+        done(x, 105, 5, 9, 19, 0);
+        x.act(4);
         x.add(9999, false);
         done(x, 1, 9, 20, 31, 42);
         due.is("the last carry is away till it is lost", x.relay(1, 1, 0), 44);
