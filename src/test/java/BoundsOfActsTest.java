@@ -365,7 +365,19 @@ public final class BoundsOfActsTest {
         due.is("digit as it was", y.rope(0, 0), 9);
         due.is("goats as they are", y.rope(0, 1), 3);
         due.is("not fewer than its digit", y.goats(0, 8), false);
-        due.is("as many", y.goats(0, 9), true);
+        due.is("to be driven by 0: 9 to 3", y.done(10, 0), 30);
+        due.is("not driven", y.done(0, 0), 0);
+        due.is("relay", y.relay(10, 1, 0), 30);
+        due.is("relay, not driven", y.relay(0, 1, 0), 0);
+        y.add(0, false);
+        due.is("nothing is driven by 0", y.number(), 9);
+        y.add(10, false);
+        due.is("as many as there are", y.number(), 13);
+        due.is("short", y.told(4), 6);
+        due.is("undo", y.undo(), 2);
+        due.is("as many as its digit", y.goats(0, 9), true);
+        y.add(10, false);
+        due.is("enough", y.number(), 19);
     }
 
     /** Promise 46: "An IMAGE (instead of the one ahead): ACTS."; promise 47: "BACK: ACTS (as then). NONE: no IMAGE." */
@@ -442,6 +454,23 @@ public final class BoundsOfActsTest {
         }
     }
 
+    /** "An object is used for at most 512 calls": what is counted goes on to the last of them. */
+    private static void fiveHundredAndTwelve() {
+        GoatAbacus x = new GoatAbacus(12);
+        x.set(1, 9);
+        x.set(2, 9);
+        x.feed(0x74313b61, 0x313b7431, 0x3b61313b, 0x74313b61, 0x313b7431);
+        x.feed(0x3b61313b, 0x74313b61, 0x313b7431, 0x3b613100, 0);
+        due.is("t1;a1, six times", x.text(), 0);
+        for (int i = 1; i <= 498; i++) {
+            due.is("run", x.run(0), 12 * i);
+        }
+        // Each act goes round on all twelve ropes.
+        int acts = 12 * 498;
+        told(x, "498 runs", 108 * acts, 12 * acts, 9 * 108 * acts + 9 * 12 * acts, acts, 0, 0, acts);
+        due.is("the 512th call", x.number(), 0);
+    }
+
     public static void main(String[] args) {
         whatIsAdded();
         drivenOn();
@@ -459,6 +488,7 @@ public final class BoundsOfActsTest {
         undoneWhole();
         images();
         imagesWhole();
+        fiveHundredAndTwelve();
         due.close();
     }
 }

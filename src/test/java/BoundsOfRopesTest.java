@@ -362,6 +362,8 @@ public final class BoundsOfRopesTest {
         due.is("still five", x.span(1, 0, 0), 100000);
         due.is("one of the five: four others", x.fog(6, true), true);
         due.is("still five", x.span(1, 0, 0), 100000);
+        due.is("no fog is no sixth", x.fog(1, false), true);
+        due.is("still five", x.span(1, 0, 0), 100000);
         due.is("one less", x.fog(6, false), true);
         due.is("four", x.span(1, 0, 0), 10000);
         due.is("another fifth", x.fog(0, true), true);

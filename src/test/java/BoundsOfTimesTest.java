@@ -100,11 +100,14 @@ public final class BoundsOfTimesTest {
         GoatAbacus x = with(3, 5, 1, 2, 7);
         // Both in 7: 9 till 16, 9 to 0 till 25, on to rope 2 in 27.
         done(x, 95, 5, 25, 28);
+        due.is("relay", x.relay(95, 1, 0), 28);
         x.set(3, 8);
         // The carry in 7: 1 till 8, then 1 and 9: 0 till 9, on to rope 2 in 11.
         done(x, 95, 5, 9, 12);
+        due.is("relay", x.relay(95, 1, 0), 12);
         x.set(3, 6);
         done(x, 95, 5, 24, 27);
+        due.is("relay", x.relay(95, 1, 0), 27);
         x.set(2, 0);
         x.set(3, 5);
         // With DOG 0 it comes in 5, as the shout does.

@@ -52,6 +52,11 @@ final class Due {
         return x.text();
     }
 
+    /** So many answers were compared so far. */
+    int asked() {
+        return asked;
+    }
+
     void close() {
         System.out.println(name + ": " + asked + " answers, " + wrong + " wrong");
         if (wrong != 0 || asked == 0) {

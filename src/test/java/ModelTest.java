@@ -235,6 +235,25 @@ public final class ModelTest {
             herd += empty.need[r];
         }
         due.is("herd " + text, x.herd(sum), herd);
+        if (by.nextBoolean()) {
+            run(x, m, sum);
+        }
+    }
+
+    private static void run(GoatAbacus x, Model m, int sum) {
+        int steps = x.step(sum, -1, 0);
+        for (int step = 0; step < steps; step++) {
+            int often = x.step(sum, step, 2);
+            for (int time = 0; time < often; time++) {
+                m.act(x.step(sum, step, 0), x.step(sum, step, 1));
+            }
+        }
+        due.is("run", x.run(sum), m.acts);
+        same(x, m, "behind a run");
+        for (int back = 0; back < 3; back++) {
+            due.is("undo", x.undo(), m.undo());
+        }
+        same(x, m, "behind a run, three undone");
     }
 
     private static void orders(GoatAbacus x, Model m) {
@@ -253,14 +272,19 @@ public final class ModelTest {
     }
 
     private static void runs() {
-        for (int seed = 0; seed < 600; seed++) {
+        for (int seed = 0; seed < 3000; seed++) {
             Random by = new Random(seed);
             int ropes = 2 + by.nextInt(11);
             GoatAbacus x = new GoatAbacus(ropes);
             Model m = new Model(ropes);
-            for (int i = 0; i < 120; i++) {
+            int first = due.asked();
+            // An object has 512 calls; not each of them is an answer here, and one round may take two hundred.
+            for (int i = 0; i < 80 && due.asked() - first < 200; i++) {
                 change(x, m, by);
-                same(x, m, "run " + seed);
+                due.is("number", x.number(), m.s.number());
+                if (by.nextInt(6) == 0) {
+                    same(x, m, "run " + seed);
+                }
                 switch (by.nextInt(10)) {
                     case 0: times(x, m, by); break;
                     case 1: proofs(x, m, by); break;
@@ -284,14 +308,12 @@ public final class ModelTest {
         GoatAbacus x = new GoatAbacus(2);
         int[][] makes = Model.makes();
         for (int n = 999; n >= 0; n--) {
+            x = n % 100 == 0 ? new GoatAbacus(2) : x;
             due.is("make " + n, x.make(n, 0), makes[n][0]);
             due.is("make " + n, x.make(n, 1), makes[n][1]);
         }
-        GoatAbacus y = new GoatAbacus(2);
-        for (int n = 0; n < 1000; n += 7) {
-            due.is("make " + n, y.make(n, 1), makes[n][1]);
-        }
         for (int weights = 1; weights < 512; weights += weights < 64 ? 1 : 5) {
+            x = new GoatAbacus(2);
             for (int n = 1; n <= 9; n++) {
                 long[] want = Model.all(weights, n);
                 due.is("all " + weights, x.all(weights, n, 0), want[0]);
@@ -302,6 +324,7 @@ public final class ModelTest {
         for (int i = 0; i < 3000; i++) {
             int a = i < 100 ? i / 10 : by.nextInt(10000);
             int b = i < 100 ? i % 10 : by.nextInt(10000);
+            x = i % 40 == 0 ? new GoatAbacus(2) : x;
             long[][] want = {Model.product(a, b, 0), Model.product(a, b, 1), Model.product(a, b, 2)};
             int rival = 0;
             for (int way = 0; way < 3; way++) {
