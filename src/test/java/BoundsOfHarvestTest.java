@@ -262,14 +262,20 @@ public final class BoundsOfHarvestTest {
         due.is("fewer digits than seen can't be", y.odds(2), 0);
         due.is("as sure as ahead of that", y.odds(0), 1000000);
         GoatAbacus z = with(12, 999999999);
-        for (int rope = 9; rope < 12; rope++) {
-            z.act(4);
-            z.add(999999999, false);
-            z.two(8, true);
-            due.is("ten digits are seen", z.odds(0), 0);
+        z.add(999999999, false);
+        due.is("nine digits are seen", z.odds(0), 1000000);
+        z.two(8, true);
+        due.is("ten are", z.odds(0), 0);
+        z.act(4);
+        z.add(1, true);
+        due.is("twelve are", z.odds(0), 0);
+        for (int rope = 0; rope < 12; rope++) {
+            z.two(rope, true);
         }
-        z.two(8, false);
-        due.is("nine are", z.odds(0), 1000000);
+        due.is("thirteen are", z.odds(0), 0);
+        due.is("no set is so much", z.added(-1), 0);
+        due.is("nor near it", z.near(), 0);
+        due.is("so much is seen", z.span(1, 0, 2), 1111111111110L);
         GoatAbacus eight = with(9, 7, 7, 7, 7, 7, 7, 7, 7);
         eight.add(7, false);
         due.is("an eighth each", eight.odds(7), 125000);
